@@ -150,6 +150,10 @@ public final class LawsTest {
         bad("cut 7a;", 1, 5);
         bad("cu 7;", 1, 0);
         bad("cuts 7;", 1, 0);
+        bad("cutz 7;", 1, 0);
+        bad("acut 7;", 1, 0);
+        bad("but 7;", 1, 0);
+        bad("suns 2;", 1, 0);
         bad("sharekeep;", 1, 0);
         bad("share;sharp;", 1, 6);
         bad("Cut 7;", 1, 0);

@@ -5,6 +5,7 @@ public final class RaceTest {
         whoEnters();
         drawnOrders();
         laterOrders();
+        allSixteen();
         cutAndReverse();
         noMoreRuns();
         lawsBetweenRuns();
@@ -179,6 +180,23 @@ public final class RaceTest {
         order("by numbers", even, 0, 1, 2, 3);
     }
 
+    private static void allSixteen() {
+        IceRun x = new IceRun();
+        x.track(5, 2);
+        for (int s = 0; s < 16; s++) {
+            x.sled(0, 80 + 8 * s, 0, 5);
+        }
+        x.race();
+        x.begin(6);
+        for (int i = 0; i < 16; i++) {
+            x.start();
+            x.water(0, 5);
+            x.weather(51, -2, 0);
+        }
+        x.begin(6);
+        order("sixteen", x, 15, 14, 13, 12, 11, 10, 9, 8, 7, 6, 5, 4, 3, 2, 1, 0);
+    }
+
     private static void cutAndReverse() {
         IceRun x = ranked("cut 3;");
         x.begin(0);
@@ -219,9 +237,16 @@ public final class RaceTest {
             x.start();
         }
         Due.is("no run 4", -1, x.begin(0));
+        Due.is("run 3 is whole", 0, Due.ice(x, 3, 0));
+        Due.is("run 3 has a time", 0, x.time(3, 0, 0));
         Due.is("the order stays", 0, x.order(0));
         x.race();
         Due.is("the next race", 0, x.begin(0));
+        Due.is("it is not down in it yet", -1, x.time(0, 0, 0));
+        x.start();
+        Due.is("run 1 of the former race is gone", -1, x.time(1, 0, 0));
+        Due.is("one run, one rank", 1, x.rank(0, 1));
+        Due.is("sum of one run", x.time(0, 0, 1), x.sum(0, 1));
 
         IceRun two = sleds(100);
         Due.laws(two, "runs 2;");

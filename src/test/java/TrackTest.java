@@ -211,6 +211,8 @@ public final class TrackTest {
         Due.yes("bend behind a run", x.bend(0, 230, 1, 1));
         Due.no("track behind a run", x.track(6, 2));
         x.close();
+        Due.is("a rut", 2, x.cell(1, 4));
         Due.yes("track behind a race", x.track(6, 2));
+        Due.is("no rut anew", 0, x.cell(1, 4));
     }
 }

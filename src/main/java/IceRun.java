@@ -834,12 +834,12 @@ public final class IceRun {
 
         void drawOrder(int seed, int many) {
             int x = seed;
-            ordered = many;
-            for (int i = 0; i < many; i++) {
-                int left = many - i;
+            ordered = 0;
+            for (int left = many; left > 0 && ordered < MOST_SLEDS; left--) {
                 x = x * 1103515245 + 12345;
                 int at = (x >>> 16) % left;
-                order[i] = pool[at];
+                order[ordered] = pool[at];
+                ordered++;
                 System.arraycopy(pool, at + 1, pool, at, left - at - 1);
             }
         }

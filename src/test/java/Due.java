@@ -4,14 +4,20 @@ import java.util.NoSuchElementException;
 final class Due {
     static final int THROWN = Integer.MIN_VALUE;
     private static int wrong = 0;
+    private static String sentence = "";
 
     private Due() {
+    }
+
+    /** The sentence of the document that the answers asked for from now on are due by. */
+    static void said(String words) {
+        sentence = words.isEmpty() ? "" : "[" + words + "] ";
     }
 
     static void is(String what, long want, long got) {
         if (got != want) {
             wrong++;
-            System.out.println(what + " answered " + got + ", due is " + want);
+            System.out.println(sentence + what + " answered " + got + ", due is " + want);
         }
     }
 

@@ -38,7 +38,7 @@ public final class GateEdgesTest {
         return x;
     }
 
-    /** All cells have taken 2 rut and lost 2 hardness: nothing is left of it. */
+    /** Makes the ice new again behind one start on new ice. */
     private static void mend(IceRun x) {
         x.water(0, x.count(0));
         x.weather(51, -2, 0);

@@ -151,7 +151,7 @@ public final class SeasonEdgesTest {
         }
     }
 
-    /** So many at the head are even, each of the others has a rank of its own. */
+    /** So many from one on are even, each of the others has a rank of its own. */
     private static int[] evenFrom(int first, int many) {
         int[] weights = falling(16);
         for (int s = first; s < first + many; s++) {

@@ -28,6 +28,7 @@ public final class StandingEdgesTest {
         lostOfOne();
         lostBounds();
         lostRefusals();
+        lastOfAll();
         Due.done();
     }
 
@@ -597,5 +598,40 @@ public final class StandingEdgesTest {
             Twins.none("lost(0, 0, " + k + ")", x -> x.lost(0, 0, k), States.WHOLE);
         }
         Twins.changesNothing("lost(0, 0, 1)", x -> x.lost(0, 0, 1), States.ALL);
+    }
+
+    /** RUN 3, SLED 15, GATE 5: nothing is kept behind it. */
+    private static void lastOfAll() {
+        Due.said("24, 25, 28, 29: NONE: no such ones, nothing is told of it (in the last RUN, of the last SLED)");
+        IceRun x = new IceRun();
+        x.track(10, 6);
+        for (int s = 0; s < 16; s++) {
+            x.sled(0, 56, 0, 5);
+        }
+        x.race();
+        for (int run = 0; run < 3; run++) {
+            Due.runWhole(x, run);
+        }
+        x.begin(0);
+        for (int i = 0; i < 16; i++) {
+            int error = x.order(i) == 15 ? 100 : 0;
+            x.eye(5, 0, error);
+            x.eye(5, 1, error);
+            x.start();
+        }
+        Due.is("time at its last gate", -1, x.time(3, 15, 5));
+        Due.yes("time at the gate ahead", x.time(3, 15, 4) > 0);
+        Due.yes("lost ahead of it", x.lost(3, 15, 3) >= 0);
+        Due.is("lost in the last bend", -1, x.lost(3, 15, 4));
+        for (int beyond = 5; beyond < 12; beyond++) {
+            Due.is("lost in " + beyond, -1, x.lost(3, 15, beyond));
+            Due.is("time at " + (beyond + 1), -1, x.time(3, 15, beyond + 1));
+            Due.is("twice at " + (beyond + 1), -1, x.twice(3, 15, beyond + 1));
+        }
+        Due.yes("its ice", Due.ice(x, 3, 15) != Due.THROWN);
+        Due.is("ice of 16", Due.THROWN, Due.ice(x, 3, 16));
+        Due.is("ice in 4", Due.THROWN, Due.ice(x, 4, 0));
+        Due.is("rank of 16", -1, x.rank(16, 4));
+        Due.yes("rank of 15", x.rank(15, 4) == 16);
     }
 }

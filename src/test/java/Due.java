@@ -4,6 +4,7 @@ import java.util.NoSuchElementException;
 final class Due {
     static final int THROWN = Integer.MIN_VALUE;
     private static int wrong = 0;
+    private static int checks = 0;
     private static String sentence = "";
 
     private Due() {
@@ -15,10 +16,16 @@ final class Due {
     }
 
     static void is(String what, long want, long got) {
+        checks++;
         if (got != want) {
             wrong++;
             System.out.println(sentence + what + " answered " + got + ", due is " + want);
         }
+    }
+
+    /** How many answers were compared so far. */
+    static int checks() {
+        return checks;
     }
 
     static void yes(String what, boolean got) {

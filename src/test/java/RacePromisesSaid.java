@@ -59,7 +59,11 @@ final class RacePromisesSaid {
         Due.is("ice", Due.THROWN, Due.ice(x, 0, 0));
         Due.is("lost", NONE, x.lost(0, 0, 0));
         Due.is("points stay", points, x.points(0, 0));
-        Due.runWhole(x, 0);
+        x.begin(0);
+        Due.is("time of 0 in the next run 0", NONE, x.time(0, 0, 0));
+        Due.is("time of 1 in the next run 0", NONE, x.time(0, 1, 0));
+        x.start();
+        x.start();
         Due.yes("no longer struck", x.rank(0, 1) != NONE);
 
         Document.says("False: no TRACK, a RUN goes on.");

@@ -70,6 +70,8 @@ final class RacesSaid {
         laws("Share;", 1, 0);
         laws("sharE;", 1, 0);
         laws("shareE;", 1, 5);
+        laws("sharez;", 1, 0);
+        laws("zhare;", 1, 0);
 
         Document.says("NUMBERS (1 to 4 digits),");
         inForce("cut 7;", 200, 100, 0, 7, 4, 0);
@@ -198,6 +200,21 @@ final class RacesSaid {
         Due.laws(x, "reverse 16;cut 4;");
         x.begin(4);
         Fixtures.orderIs(x, 2, 4, 0, 1);
+        x = sixteen();
+        Fixtures.cleanRun(x, 9);
+        x.begin(9);
+        Fixtures.orderIs(x, 15, 14, 13, 12, 11, 10, 9, 8, 7, 6, 5, 4, 3, 2, 1, 0);
+    }
+
+    /** The later they come the heavier, and so the faster they are. */
+    private static IceRun sixteen() {
+        int[] weights = new int[16];
+        for (int s = 0; s < 16; s++) {
+            weights[s] = 56 + 8 * s;
+        }
+        IceRun x = Fixtures.sleds(weights);
+        x.race();
+        return x;
     }
 
     private static void theRuns() {
@@ -409,12 +426,7 @@ final class RacesSaid {
 
         Document.says("POINTS by RANK, as known then: 25, 20, 16, 13, 11, 10, 9, 8, 7, 6, 5, 4, 3, 2, 1, 0.");
         int[] points = {25, 20, 16, 13, 11, 10, 9, 8, 7, 6, 5, 4, 3, 2, 1, 0};
-        int[] weights = new int[16];
-        for (int s = 0; s < 16; s++) {
-            weights[s] = 56 + 8 * s;
-        }
-        x = Fixtures.sleds(weights);
-        x.race();
+        x = sixteen();
         Fixtures.cleanRun(x, 9);
         x.close();
         for (int s = 0; s < 16; s++) {
